@@ -680,7 +680,8 @@ public final class EngineControl {
         pump = power == ON && (keyLoops <= PUMP_LOOPS || crank.state >= HALF); // 11.
         testChannels();                                                       // 12.
         testRest();
-        followRules();                                                        // 12a.
+        setRuleInputs();                                                      // 12a.
+        bench.followProgram();
         recordRow();                                                          // 12b.
         tester.tick();                                                        // 13.
         useBus();                                                             // 13a.
@@ -816,7 +817,10 @@ public final class EngineControl {
 
     // Always 0 .. 15, so it is an index of LONG.
     private int cellAtHand() {
-        return 4 * clip(crank.speed / 1500, 0, 3) + clip(pins.reading[PRESSURE] / 30, 0, 3);
+        int pressure = pins.reading[PRESSURE];
+        int bySpeed = crank.speed >= 4500 ? 3 : crank.speed / 1500;
+        int byPressure = pressure < 0 ? 0 : pressure >= 90 ? 3 : pressure / 30;
+        return 4 * bySpeed + byPressure;
     }
 
     // ==== The steps of the LOOP that need more than one part
@@ -882,7 +886,7 @@ public final class EngineControl {
         }
     }
 
-    private void followRules() {
+    private void setRuleInputs() {
         int[] inputs = bench.inputs;
         inputs[0] = crank.speed;
         inputs[1] = pins.reading[PRESSURE];
@@ -892,7 +896,6 @@ public final class EngineControl {
         inputs[5] = pins.reading[KNOCK];
         inputs[6] = model.metres;
         inputs[7] = loops;
-        bench.followProgram();
     }
 
     private void recordRow() {
@@ -2980,11 +2983,12 @@ public final class EngineControl {
                     return false;
                 }
                 place++;
-                if (sign == '(') {
-                    return readChoice(open + 1) && readSign(')');
+                boolean right = sign == '-' ? readFactor(open + 1) : readChoice(open + 1) && nextSign() == ')';
+                if (right && sign == '(') {
+                    place++;
+                } else if (right) {
+                    addStep(NEGATE, 0);
                 }
-                boolean right = readFactor(open + 1);
-                addStep(NEGATE, 0);
                 return right;
             }
             int input = sign == NONE ? NONE : INPUTS.indexOf((char) sign);
@@ -3080,9 +3084,9 @@ public final class EngineControl {
                 case '-': return x - y;
                 case '*': return x * y;
                 case '/': return y == 0 ? 0 : x / y;
-                case '<': return bit(x < y);
-                case '>': return bit(x > y);
-                default: return bit(x == y);
+                case '<': return x < y ? 1 : 0;
+                case '>': return x > y ? 1 : 0;
+                default: return x == y ? 1 : 0;
             }
         }
 
