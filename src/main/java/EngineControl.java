@@ -2976,7 +2976,9 @@ public final class EngineControl {
         private boolean readFactor(int open) {
             int sign = nextSign();
             if (sign >= '0' && sign <= '9') {
-                return readNumber();
+                int number = readNumber();
+                addStep(GIVE_NUMBER, number);
+                return number != NONE;
             }
             if (sign == '-' || sign == '(') {
                 if (open >= MOST_OPEN) {
@@ -3003,19 +3005,19 @@ public final class EngineControl {
             return true;
         }
 
-        private boolean readNumber() {
+        /** NONE if it has a sixth digit, which can't be there. */
+        private int readNumber() {
             int number = 0;
             int digits = 0;
             while (digits < 6 && place < textSize && place < MOST_TEXT && text[place] >= '0' && text[place] <= '9') {
                 digits++;
                 if (digits == 6) {
-                    return false;
+                    return NONE;
                 }
                 number = 10 * number + text[place] - '0';
                 place++;
             }
-            addStep(GIVE_NUMBER, number);
-            return true;
+            return number;
         }
 
         /** Each RULE in turn gives its OUT what its CHOICE is. */
