@@ -900,11 +900,12 @@ public final class EngineControl {
 
     private void recordRow() {
         if (bench.runs && bench.every > 0 && loops % bench.every == 0) {
-            int slot = bench.newRow();
+            // The row itself is not yet counted among what it tells.
+            int slot = bench.nextSlot();
             for (int i = 0; i < 3; i++) {
                 bench.rows[i][slot] = tell(bench.whats[i]);
             }
-            bench.countMore();
+            bench.keepRow();
         }
         bench.watchTrigger();
     }
@@ -3104,18 +3105,17 @@ public final class EngineControl {
             dBefore = 0;
         }
 
-        /** Where a new row goes; the oldest one makes room for it. */
-        int newRow() {
-            int slot = Math.floorMod(rowStart + rowCount, ROWS_KEPT);
+        /** Where the next row goes: behind the last one, or in place of the oldest. */
+        int nextSlot() {
+            return Math.floorMod(rowStart + rowCount, ROWS_KEPT);
+        }
+
+        void keepRow() {
             if (rowCount < ROWS_KEPT) {
                 rowCount++;
             } else {
                 rowStart = (rowStart + 1) % ROWS_KEPT;
             }
-            return slot;
-        }
-
-        void countMore() {
             if (more > 0) {
                 more--;
                 runs = more > 0;
