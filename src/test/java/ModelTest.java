@@ -1,0 +1,178 @@
+/** Promises 7 run, 8 set, 9 load. */
+public final class ModelTest {
+    private static final Check CHECK = new Check();
+
+    public static void main(String[] args) {
+        setting();
+        loads();
+        standing();
+        starterTurns();
+        strokes();
+        pinsOfTheModel();
+        heat();
+        CHECK.end();
+    }
+
+    private static void setting() {
+        EngineControl x = new EngineControl();
+        CHECK.noSuch("set(2, true)", () -> x.set(2, true));
+        CHECK.noSuch("set(-1, true)", () -> x.set(-1, true));
+        CHECK.no("STARTER is off", x.set(0, false));
+        CHECK.yes("STARTER on", x.set(0, true));
+        CHECK.no("STARTER on again", x.set(0, true));
+        CHECK.no("AUTO is off", x.set(1, false));
+        CHECK.yes("AUTO on", x.set(1, true));
+        CHECK.yes("AUTO off", x.set(1, false));
+        x.key(true);
+        x.cut(0);
+        CHECK.no("STARTER stays behind OFF", x.set(0, true));
+    }
+
+    private static void loads() {
+        EngineControl x = new EngineControl();
+        CHECK.badArgument("load(-1)", () -> x.load(-1));
+        CHECK.badArgument("load(401)", () -> x.load(401));
+        CHECK.same("load at first", x.load(400), 0);
+        CHECK.same("load", x.load(0), 400);
+        x.load(7);
+        x.key(true);
+        x.cut(0);
+        CHECK.same("LOAD stays", x.load(0), 7);
+    }
+
+    private static void standing() {
+        EngineControl x = new EngineControl();
+        CHECK.badArgument("run(0)", () -> x.run(0));
+        CHECK.badArgument("run(241)", () -> x.run(241));
+        CHECK.same("the wheel stands", x.run(240), 0);
+        CHECK.same("TIME too", x.about(0), 0);
+    }
+
+    // With the starter each STEP takes 4000 ticks until place 10, where RPM shrinks by 250 / 64 + LOAD / 4.
+    private static void starterTurns() {
+        EngineControl x = new EngineControl();
+        x.set(0, true);
+        CHECK.same("run(1)", x.run(1), 1);
+        CHECK.same("RPM", x.about(44), 250);
+        CHECK.same("TIME", x.about(0), 4000);
+        CHECK.same("WHERE", x.about(45), 1);
+        x.run(8);
+        CHECK.same("RPM before place 10", x.about(44), 250);
+        x.load(8);
+        x.run(1);
+        CHECK.same("RPM at place 10", x.about(44), 250 - 3 - 2);
+        x.set(0, false);
+        x.run(10);
+        CHECK.same("without the starter", x.about(44), 245 - 3 - 2);
+        x.load(400);
+        CHECK.same("it stops at place 40", x.run(240), 20);
+        CHECK.same("RPM below 50 is 0", x.about(44), 0);
+        CHECK.same("WHERE", x.about(45), 40);
+        CHECK.same("no STEP", x.run(1), 0);
+        x.set(0, true);
+        CHECK.same("240 STEPS", x.run(240), 240);
+        CHECK.same("the place behind 119 is 0", x.about(45), 40);
+    }
+
+    /** The engine with all pins at rest comes to life by the starter. */
+    private static void strokes() {
+        EngineControl x = new EngineControl();
+        x.set(0, true);
+        x.set(1, true);
+        x.pin(0, 30);
+        x.pin(1, 30);
+        x.key(true);
+        for (int i = 0; i < 4; i++) {
+            x.run(240);
+        }
+        CHECK.same("FULL", x.about(2), EngineControl.FULL);
+        CHECK.yes("sparks", x.about(15) > 0);
+        CHECK.yes("strokes make it faster than the starter", x.about(44) > 300);
+        x.set(0, false);
+        for (int i = 0; i < 10; i++) {
+            x.run(240);
+        }
+        CHECK.yes("it runs by itself", x.about(44) > 300);
+        x.cut(0);
+        x.load(8);
+        int done = 0;
+        for (int i = 0; i < 20; i++) {
+            done = x.run(240);
+        }
+        CHECK.same("without the controller it stops", done, 0);
+        CHECK.same("RPM", x.about(44), 0);
+        oneStroke();
+    }
+
+    /** Injector and coil of cylinder 0 act in STEPS of turn(); run() feels them at its TOP, place 10. */
+    private static void oneStroke() {
+        EngineControl x = new EngineControl();
+        x.calibrate(0, 1);
+        x.key(true);
+        x.turn(120, 1000);
+        x.turn(120, 1000);
+        x.turn(120, 1000);
+        CHECK.same("WHERE", x.about(45), 0);
+        int fuel = x.cylinder(0, 5);
+        CHECK.yes("FUEL", fuel > 640);
+        x.set(0, true);
+        x.run(9);
+        CHECK.same("before TOP", x.about(44), 250);
+        x.run(1);
+        int faster = 250 + fuel / 64;
+        CHECK.same("at TOP, and slowed at place 10", x.about(44), faster - faster / 64);
+    }
+
+    private static void pinsOfTheModel() {
+        EngineControl x = new EngineControl();
+        x.set(1, true);
+        x.pin(0, 200);
+        x.pin(1, 200);
+        CHECK.same("FLAP", x.about(46), 60);
+        x.key(true);
+        CHECK.same("pins before the LOOP", x.channel(2, 0), 512);
+        x.pass(10000);
+        CHECK.same("FLAP at rest", x.about(46), 60);
+        CHECK.same("PLATE1", x.channel(2, 0), 61);
+        CHECK.same("PLATE2", x.channel(3, 0), 61);
+        CHECK.same("PRESSURE: 34", x.channel(4, 0), 24 * 1023 / 100);
+        CHECK.same("COOLANT: 20", x.channel(5, 0), 120 * 1023 / 180);
+        // PEDAL is 195, PLATE 59: ERROR 136, SUM 136, DUTY 544 + 8
+        CHECK.same("DUTY", x.about(25), 552);
+        x.pass(10000);
+        CHECK.same("FLAP goes by DUTY / 20", x.about(46), 60 + 27);
+        x.key(false);
+        x.pass(20000);
+        CHECK.yes("to 60 by 10 behind a LOOP without power", x.about(46) >= 60);
+        x.pass(500000);
+        CHECK.same("FLAP at rest again", x.about(46), 60);
+        x.set(1, false);
+        x.pin(2, 700);
+        x.pass(10000);
+        CHECK.same("without AUTO pins stay", x.channel(2, 0), 700);
+    }
+
+    private static void heat() {
+        EngineControl x = new EngineControl();
+        x.set(1, true);
+        x.set(0, true);
+        x.key(true);
+        CHECK.same("HEAT at first", x.about(47), 20);
+        x.pass(1000000);
+        CHECK.same("20 at least", x.about(47), 20);
+        EngineControl y = new EngineControl();
+        y.set(0, true);
+        y.set(1, true);
+        y.pin(0, 40);
+        y.pin(1, 40);
+        y.key(true);
+        for (int i = 0; i < 8; i++) {
+            y.run(240);
+        }
+        CHECK.yes("RPM", y.about(44) >= 400);
+        long before = y.about(47);
+        long loops = y.about(11);
+        y.pass(2000000);
+        CHECK.same("1 more in each 50th LOOP", y.about(47), before + (loops + 200) / 50 - loops / 50);
+    }
+}
