@@ -74,8 +74,12 @@ public final class CarTest {
         y.car(1, 6);
         y.pass(10000);
         CHECK.same("50 at most upwards", y.about(50), 237);
-        y.pass(500000);
-        CHECK.same("250 * 450 / 100", y.about(50), 1125);
+        int[] ratios = {75, 140, 210, 290, 370, 450};
+        for (int gear = 1; gear <= 6; gear++) {
+            y.car(1, gear);
+            y.pass(500000);
+            CHECK.same("250 * R / 100 in GEAR " + gear, y.about(50), 250 * ratios[gear - 1] / 100);
+        }
     }
 
     private static void contacts() {
@@ -140,6 +144,11 @@ public final class CarTest {
         CHECK.same("0 in HOLDING", x.press(0), 0);
         CHECK.same("WISH 0", x.about(56), 0);
         x.press(0);
+        x.press(1);
+        x.press(3);
+        CHECK.same("0 in READY", x.press(0), 0);
+        CHECK.same("WISH 0", x.about(56), 0);
+        x.press(0);
         x.car(0, 2999);
         CHECK.same("too slow", x.press(1), 1);
         x.car(0, 3000);
@@ -174,14 +183,21 @@ public final class CarTest {
         x.car(0, 4000);
         x.pass(10000);
         CHECK.same("800 at most", x.about(57), 800);
+        x.press(1);
+        x.pass(10000);
+        CHECK.same("CSUM began anew", x.about(57), 0);
+        x.car(0, 3000);
+        x.pass(100000);
+        x.press(3);
+        x.press(2);
+        x.car(0, 4000);
+        x.pass(10000);
+        CHECK.same("CSUM began anew by 2, too", x.about(57), 0);
         x.car(0, 20000);
         x.pass(10000);
         CHECK.same("0 at least", x.about(57), 0);
-        x.press(3);
-        x.press(2);
-        x.car(0, 7999);
-        x.pass(10000);
-        CHECK.same("CSUM began anew", x.about(57), 0);
+        x.car(0, 8000);
+        x.press(1);
         x.pin(0, 900);
         x.pin(1, 900);
         x.car(0, 7000);

@@ -32,6 +32,8 @@ public final class LinesAndMapsTest {
         CHECK.same("a point", x.lineAt(10, 20), 1300);
         CHECK.same("between", x.lineAt(10, 21), 1295);
         CHECK.same("DEAD", x.lineAt(11, 131), 890);
+        CHECK.same("DEAD at its end", x.lineAt(11, 159), 610);
+        CHECK.same("DEAD at its end", x.lineAt(11, 160), 600);
         CHECK.same("DWELL", x.lineAt(12, 129), 3550);
         CHECK.same("FLOOR of a falling line", x.lineAt(5, 1), 139);
         CHECK.noSuch("lineAt(13, 0)", () -> x.lineAt(13, 0));

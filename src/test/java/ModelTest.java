@@ -64,6 +64,7 @@ public final class ModelTest {
         x.set(0, false);
         x.run(10);
         CHECK.same("without the starter", x.about(44), 245 - 3 - 2);
+        fifty();
         x.load(400);
         CHECK.same("it stops at place 40", x.run(240), 20);
         CHECK.same("RPM below 50 is 0", x.about(44), 0);
@@ -72,6 +73,27 @@ public final class ModelTest {
         x.set(0, true);
         CHECK.same("240 STEPS", x.run(240), 240);
         CHECK.same("the place behind 119 is 0", x.about(45), 40);
+    }
+
+    // 250 less 3 and 97 is 150, less 2 and 98 is 50.
+    private static void fifty() {
+        EngineControl x = new EngineControl();
+        x.set(0, true);
+        x.load(388);
+        x.run(10);
+        CHECK.same("RPM", x.about(44), 150);
+        x.set(0, false);
+        x.load(392);
+        x.run(10);
+        CHECK.same("RPM", x.about(44), 50);
+        long before = x.about(0);
+        CHECK.same("50 turns yet", x.run(1), 1);
+        CHECK.same("20000 ticks", x.about(0) - before, 20000);
+        x.load(4);
+        x.run(9);
+        CHECK.same("RPM", x.about(44), 49);
+        CHECK.same("49 does not", x.run(1), 0);
+        CHECK.same("RPM", x.about(44), 0);
     }
 
     /** The engine with all pins at rest comes to life by the starter. */
@@ -143,13 +165,46 @@ public final class ModelTest {
         CHECK.same("FLAP goes by DUTY / 20", x.about(46), 60 + 27);
         x.key(false);
         x.pass(20000);
-        CHECK.yes("to 60 by 10 behind a LOOP without power", x.about(46) >= 60);
-        x.pass(500000);
+        for (int i = 0; i < 10; i++) {
+            long before = x.about(46);
+            x.pass(10000);
+            CHECK.same("to 60 by 10 behind a LOOP without power", x.about(46), Math.max(60, before - 10));
+        }
         CHECK.same("FLAP at rest again", x.about(46), 60);
+        flapEnds();
         x.set(1, false);
         x.pin(2, 700);
         x.pass(10000);
         CHECK.same("without AUTO pins stay", x.channel(2, 0), 700);
+    }
+
+    private static void flapEnds() {
+        EngineControl x = new EngineControl();
+        x.calibrate(18, 1000);
+        x.calibrate(16, 50);
+        x.limits(2, 0, 1023, 1023);
+        x.limits(3, 0, 1023, 1023);
+        x.set(1, true);
+        x.pin(0, 1003);
+        x.pin(1, 1003);
+        x.line(0, 20, 0, 1003, 3000);
+        x.line(1, 20, 0, 1003, 3000);
+        x.key(true);
+        x.pass(2000000);
+        CHECK.same("FLAP 1000 at most", x.about(46), 1000);
+        x.pin(0, 20);
+        x.pin(1, 20);
+        x.pass(1200000);
+        CHECK.same("FLAP 0 at least", x.about(46), 0);
+        x.watch(true);
+        x.pass(300000);
+        CHECK.same("SHUT", x.about(28), 1);
+        x.pass(10000);
+        for (int i = 0; i < 8; i++) {
+            long before = x.about(46);
+            x.pass(10000);
+            CHECK.same("to 60 from below", x.about(46), Math.min(60, before + 10));
+        }
     }
 
     private static void heat() {
@@ -174,5 +229,35 @@ public final class ModelTest {
         long loops = y.about(11);
         y.pass(2000000);
         CHECK.same("1 more in each 50th LOOP", y.about(47), before + (loops + 200) / 50 - loops / 50);
+        CHECK.same("RAW of COOLANT", y.channel(5, 0), (140 - y.about(47)) * 1023 / 180);
+        heatEnds(98, 92, 98);
+        heatEnds(50, 59, 60);
+        heatEnds(140, 130, 130);
+    }
+
+    /** With FAN1 from a COOLANT on HEAT stays between two numbers at last. */
+    private static void heatEnds(int fan, int least, int most) {
+        EngineControl x = new EngineControl();
+        x.calibrate(14, fan);
+        x.set(0, true);
+        x.set(1, true);
+        x.pin(0, 40);
+        x.pin(1, 40);
+        x.key(true);
+        for (int i = 0; i < 8; i++) {
+            x.run(240);
+        }
+        for (int i = 0; i < 30; i++) {
+            x.pass(2000000);
+        }
+        long low = 1000;
+        long high = 0;
+        for (int i = 0; i < 40; i++) {
+            x.pass(500000);
+            low = Math.min(low, x.about(47));
+            high = Math.max(high, x.about(47));
+        }
+        CHECK.same("HEAT at least, FAN1 " + fan, low, least);
+        CHECK.same("HEAT at most, FAN1 " + fan, high, most);
     }
 }

@@ -153,6 +153,9 @@ public final class OffTest {
                     CHECK.same("step " + step + ", cylinder", used.cylinder(c, what), fresh.cylinder(c, what));
                 }
             }
+            for (int i = 0; i < fresh.about(43); i++) {
+                CHECK.same("step " + step + ", byteOf", used.byteOf(i), fresh.byteOf(i));
+            }
         }
     }
 
@@ -176,6 +179,9 @@ public final class OffTest {
             case 15: x.press(2); break;
             case 16: x.watch(false); break;
             case 17: x.pass(100000); break;
+            case 20: x.cam(0); break;
+            case 21: x.tooth(20); break;
+            case 22: x.pass(10000); break;
             case 35: x.pass(2000000); break;
             case 36: x.key(false); break;
             case 37: x.pass(500000); break;
