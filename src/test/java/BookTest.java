@@ -63,6 +63,16 @@ public final class BookTest {
         CHECK.same("a cell that can't be", x.about(70), 1);
         put(x, 1, 2, 0, -101);
         CHECK.same("a cell that can't be", x.about(70), 1);
+        put(x, 1, 2, 0, 450);
+        for (int i : new int[] {1, 16, 17, 32}) {
+            int was = x.tear(1, i, 20001);
+            int sum = x.tear(1, 33, x.page(1, 33) + (i + 1) * (20001 - was));
+            CHECK.same("word " + i + " can't be", x.about(70), 1);
+            x.tear(1, i, was);
+            x.tear(1, 33, sum);
+            CHECK.same("it is valid again", x.about(70), 2);
+        }
+        x.tear(1, 0, 0);
         put(x, 0, 0, 0, 0);
         CHECK.same("HEAD 0", x.about(70), 0);
         x.cell(0, 0, 0, 77);

@@ -51,6 +51,9 @@ public final class EdgesTest {
         CHECK.noSuch("record: a alone", () -> x.record(1, 80, 0, 0));
         CHECK.noSuch("record: b alone", () -> x.record(1, 0, -1, 0));
         CHECK.noSuch("record: c alone", () -> x.record(1, 0, 0, 80));
+        CHECK.noSuch("record: a below 0", () -> x.record(1, -1, 0, 0));
+        CHECK.noSuch("record: b above 79", () -> x.record(1, 0, 80, 0));
+        CHECK.noSuch("record: c below 0", () -> x.record(1, 0, 0, -1));
         x.record(100, 79, 79, 79);
         x.cut(1);
         x.key(true);
@@ -155,6 +158,19 @@ public final class EdgesTest {
         for (int c = 0; c < 4; c++) {
             CHECK.same("MISSES", x.cylinder(c, 2), 0);
         }
+        x.key(false);
+        x.key(true);
+        x.turn(30, 1000);
+        x.turn(30, 1300);
+        for (int c = 0; c < 4; c++) {
+            CHECK.same("no S of the time before ALL OFF", x.cylinder(c, 2), 0);
+        }
+        x.turn(30, 1700);
+        int sum = 0;
+        for (int c = 0; c < 4; c++) {
+            sum += x.cylinder(c, 2);
+        }
+        CHECK.same("then S and S0 are known", sum, 1);
     }
 
     private static int fuel(int cell, int dead) {
@@ -423,6 +439,13 @@ public final class EdgesTest {
         x.pass(600000);
         ask(x, 1, 31);
         CHECK.same("LOOPS 2xx / 100", x.byteOf(6), 2);
+        EngineControl z = new EngineControl();
+        z.key(true);
+        ask(z, 0x81);
+        z.pass(1940000);
+        ask(z, 1, 31);
+        CHECK.same("LOOPS", z.about(11), 200);
+        CHECK.same("200 / 100", z.byteOf(6), 2);
         EngineControl y = new EngineControl();
         y.pin(5, 300);
         y.limits(7, 0, 600, 1023);

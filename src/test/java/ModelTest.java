@@ -230,9 +230,49 @@ public final class ModelTest {
         y.pass(2000000);
         CHECK.same("1 more in each 50th LOOP", y.about(47), before + (loops + 200) / 50 - loops / 50);
         CHECK.same("RAW of COOLANT", y.channel(5, 0), (140 - y.about(47)) * 1023 / 180);
+        y.load(400);
+        for (int i = 0; i < 3; i++) {
+            y.set(0, false);
+            y.run(240);
+        }
+        CHECK.same("the wheel stands", y.about(44), 0);
+        before = y.about(47);
+        loops = y.about(11);
+        y.pass(2000000);
+        CHECK.same("1 less in each 50th LOOP", y.about(47), Math.max(20, before - (loops + 200) / 50 + loops / 50));
+        fullPower();
         heatEnds(98, 92, 98);
         heatEnds(50, 59, 60);
         heatEnds(140, 130, 130);
+    }
+
+    /** Eight cylinders with the most FUEL, and the flap at rest: PRESSURE is 12 at least. */
+    private static void fullPower() {
+        EngineControl x = new EngineControl();
+        x.calibrate(0, 8);
+        x.calibrate(5, 9000);
+        x.calibrate(9, 400);
+        x.limits(2, 0, 1023, 1023);
+        x.limits(3, 0, 1023, 1023);
+        for (int i = 0; i < 4; i++) {
+            for (int j = 0; j < 4; j++) {
+                x.cell(0, i, j, 20000);
+                x.cell(1, i, j, 0);
+            }
+        }
+        x.set(0, true);
+        x.set(1, true);
+        x.pin(0, 20);
+        x.pin(1, 20);
+        x.key(true);
+        long most = 0;
+        for (int i = 0; i < 60; i++) {
+            x.run(240);
+            most = Math.max(most, x.about(44));
+        }
+        CHECK.yes("RPM", most > 5000);
+        CHECK.yes("9000 at most", most <= 9000);
+        CHECK.same("RAW of PRESSURE 12", x.channel(4, 0), 2 * 1023 / 100);
     }
 
     /** With FAN1 from a COOLANT on HEAT stays between two numbers at last. */

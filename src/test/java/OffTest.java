@@ -27,6 +27,7 @@ public final class OffTest {
         }
         even(used, fresh);
         alike(used, fresh);
+        cutWhileRunning();
         CHECK.end();
     }
 
@@ -86,6 +87,49 @@ public final class OffTest {
         x.pin(2, 700);
         x.pin(3, 700);
         x.pass(10000);
+    }
+
+    /** A CUT when an injector is on, the mixture CLOSED, the cruise HOLDING and DIFFER 19. */
+    private static void cutWhileRunning() {
+        EngineControl x = new EngineControl();
+        x.calibrate(18, 1000);
+        x.pin(0, 20);
+        x.pin(1, 20);
+        x.pin(5, 200);
+        x.car(0, 9000);
+        x.car(1, 5);
+        x.key(true);
+        x.press(0);
+        x.press(1);
+        x.car(0, 8000);
+        for (int i = 0; i < 6; i++) {
+            x.turn(240, 1400);
+        }
+        for (int i = 0; i < 120 && x.cylinder(2, 3) == 0; i++) {
+            x.turn(1, 1400);
+        }
+        x.turn(1, 1400);
+        CHECK.same("the injector is on", x.cylinder(2, 3), 1);
+        CHECK.same("CLOSED", x.about(31), 1);
+        CHECK.yes("IDLING", x.about(23) > 0);
+        CHECK.yes("CRUISING", x.about(57) > 0);
+        long edges = x.about(14);
+        x.cut(0);
+        CHECK.same("no EDGE", x.about(14), edges);
+        for (int what = 1; what < 8; what++) {
+            CHECK.same("cylinder 2, " + what, x.cylinder(2, what), 0);
+        }
+        for (int what : new int[] {2, 5, 6, 12, 15, 17, 18, 22, 23, 31, 32, 35, 55, 56, 57, 64}) {
+            CHECK.same("about(" + what + ")", x.about(what), 0);
+        }
+        CHECK.same("V", x.about(50), 8000);
+        x.brake(0, true);
+        x.key(true);
+        x.pass(190000);
+        x.cut(0);
+        x.key(true);
+        x.pass(190000);
+        CHECK.same("DIFFER began anew", x.about(54), 0);
     }
 
     private static void asAtFirst(EngineControl x) {
@@ -159,10 +203,21 @@ public final class OffTest {
         }
     }
 
+    /** SPARKS, a wrong cam edge and a slip before the first LOOP: it compares them with 0. */
+    private static void beforeTheFirstLoop(EngineControl x) {
+        x.turn(240, 20);
+        x.cam(1);
+        x.tooth(1);
+        x.pass((int) (10000 - x.about(0) % 10000));
+        CHECK.same("SLIPS grew", x.trouble(15, 0), 32);
+        CHECK.same("WRONGCAM grew", x.trouble(16, 0), 32);
+        CHECK.same("SPARKS grew", x.trouble(19, 0), -4);
+    }
+
     private static void act(EngineControl x, int step) {
         switch (step) {
             case 0: x.key(true); break;
-            case 1: x.pass(10000); break;
+            case 1: beforeTheFirstLoop(x); break;
             case 2: x.pass(10000); break;
             case 3: x.hear(17, 0); break;
             case 4: ask(x, 0x81); break;
