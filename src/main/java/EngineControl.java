@@ -13,6 +13,7 @@ public final class EngineControl {
     public static final int LOST = 0, SEEKING = 1, HALF = 2, FULL = 3;
 
     private static final int LOOP_TICKS = 10000;
+    private static final long NEVER = 9223372036854775807L;
     // Far above what one passing of time can bring: 200 LOOPS and some 128 EVENTS.
     private static final int MOST_DUE = 1000000;
     private static final int AFTER_LOOPS = 100;
@@ -633,7 +634,7 @@ public final class EngineControl {
         for (int i = 0; i < MOST_DUE && power != OFF; i++) {
             long loopAt = (time / LOOP_TICKS + 1) * LOOP_TICKS;
             int next = outputs.nextEvent();
-            long eventAt = next == NONE ? Long.MAX_VALUE : outputs.eventTime[next];
+            long eventAt = next == NONE ? NEVER : outputs.eventTime[next];
             // At one time the LOOP goes first.
             boolean eventFirst = eventAt < loopAt;
             if ((eventFirst ? eventAt : loopAt) > target) {
@@ -736,7 +737,7 @@ public final class EngineControl {
                 planCylinder(c);
             }
         }
-        for (int c = 0; c < MOST_CYLINDERS; c++) {
+        for (int c = 0; c < cylinders && c < MOST_CYLINDERS; c++) {
             putWaiting(c);
         }
     }
@@ -1506,6 +1507,7 @@ public final class EngineControl {
     /** LINES and the CHANNELS that are read through them. */
     private static final class Pins {
         private static final int MOST_POINTS = 8;
+        private static final int LEAST_TOLD = -10000;
         private static final int[] SUBSTITUTES = {0, 0, 60, 60, 60, 90, 20, 450, 130, 0};
         /** Of each LINE how many points it has, then x, v of each. */
         private static final int[] LINES_AT_FIRST = {
@@ -1566,13 +1568,13 @@ public final class EngineControl {
 
         // The value of DWELL has a bound of its own; its x has none, for it begins below 100 itself.
         static boolean isPoint(int line, int x, int v) {
-            int least = line == DWELL ? 100 : -10000;
-            return x >= -10000 && x <= 30000 && v >= least && v <= 30000;
+            int least = line == DWELL ? 100 : LEAST_TOLD;
+            return x >= LEAST_TOLD && x <= 30000 && v >= least && v <= 30000;
         }
 
         int lastX(int line) {
             int last = lineSize[line] - 1;
-            return last >= 0 && last < MOST_POINTS ? lineX[line][last] : Integer.MIN_VALUE;
+            return last >= 0 && last < MOST_POINTS ? lineX[line][last] : LEAST_TOLD - 1;
         }
 
         void addPoint(int line, int x, int v) {
@@ -1875,7 +1877,7 @@ public final class EngineControl {
         /** The earliest one, of several at one time that which was put first; NONE without. */
         int nextEvent() {
             int next = NONE;
-            long least = Long.MAX_VALUE;
+            long least = NEVER;
             for (int i = 0; i < events && i < MOST_EVENTS; i++) {
                 if (eventTime[i] < least) {
                     least = eventTime[i];
