@@ -9,7 +9,8 @@ import java.util.Map;
 
 /**
  * All promises together: long runs of calls with their answers, from src/test/data/runs.txt. The
- * answers were told by a second model of the document, written apart from the class.
+ * answers were told by a second model of the document, by the same hand but apart from the class: they
+ * find slips, not wrong readings.
  */
 public final class RecordedRunsTest {
     private static final Map<String, Method> CALLS = new HashMap<>();
