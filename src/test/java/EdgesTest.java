@@ -401,24 +401,32 @@ public final class EdgesTest {
             x.tooth(1000);
         }
         x.cam(0);
-        int teeth = 15;
-        int before = 0;
-        for (int i = 0; i < 58 * 6 + 5; i++) {
-            x.tooth(teeth == 57 ? 3000 : 1000);
-            teeth = teeth == 57 ? 0 : teeth + 1;
-            if (x.about(8) == 2) {
-                before = x.trouble(16, 0);
-            }
-        }
+        int tooth = spin(x, 15, 237);
+        CHECK.same("MISSED", x.about(8), 1);
+        tooth = spin(x, tooth, 1);
+        CHECK.same("TOOTH", x.about(3), 21);
         CHECK.same("MISSED", x.about(8), 2);
-        int passed = x.trouble(16, 0);
-        CHECK.same("MISSED 2 neither fails nor passes", passed, before);
-        for (int i = 0; i < 30 && x.about(8) < 3; i++) {
-            x.tooth(1000);
-        }
+        int before = x.trouble(16, 0);
+        long loops = x.about(11);
+        tooth = spin(x, tooth, 10);
+        CHECK.same("a LOOP came", x.about(11), loops + 1);
+        CHECK.same("MISSED 2 neither fails nor passes", x.trouble(16, 0), before);
+        tooth = spin(x, tooth, 105);
+        CHECK.same("MISSED", x.about(8), 2);
+        spin(x, tooth, 1);
         CHECK.same("MISSED", x.about(8), 3);
         x.pass((int) (10000 - x.about(0) % 10000));
-        CHECK.same("MISSED 3 fails", x.trouble(16, 0), passed + 32);
+        CHECK.same("MISSED 3 fails", x.trouble(16, 0), before + 32);
+    }
+
+    /** So many teeth without a cam edge, from this one on: which one it is at then. */
+    private static int spin(EngineControl x, int tooth, int n) {
+        int at = tooth;
+        for (int i = 0; i < n; i++) {
+            x.tooth(at == 57 ? 3000 : 1000);
+            at = at == 57 ? 0 : at + 1;
+        }
+        return at;
     }
 
     private static void pids() {
@@ -552,7 +560,10 @@ public final class EdgesTest {
         x.calibrate(4, 20000);
         x.key(true);
         long most = 0;
-        for (int i = 0; i < 300; i++) {
+        x.turn(240, 20);
+        x.turn(240, 20);
+        x.turn(240, 20);
+        for (int i = 0; i < 200; i++) {
             x.turn(15, 20);
             most = Math.max(most, x.about(12));
         }

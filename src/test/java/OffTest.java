@@ -9,9 +9,7 @@ public final class OffTest {
 
     public static void main(String[] args) {
         EngineControl used = new EngineControl();
-        EngineControl fresh = new EngineControl();
         prepare(used);
-        prepare(fresh);
         wear(used);
         CHECK.yes("it was worn", used.about(7) > 0 && used.about(22) > 0 && used.about(32) != 0);
         CHECK.yes("it was worn", used.about(60) > 0 && used.about(62) > 0 && used.about(68) > 0);
@@ -19,14 +17,9 @@ public final class OffTest {
         CHECK.yes("it was worn", used.about(34) != 0 || used.about(55) > 0 && used.about(41) > 0);
         used.cut(0);
         asAtFirst(used);
-        // The same bench: the wheel, the pins, the clock modulo a LOOP, and no words kept.
-        for (int copy = 0; copy < 2; copy++) {
-            for (int i = 0; i < 55; i++) {
-                used.spoil(copy, i, 0);
-            }
+        for (int step = 0; step < 40; step++) {
+            alike(step);
         }
-        even(used, fresh);
-        alike(used, fresh);
         cutWhileRunning();
         CHECK.end();
     }
@@ -179,28 +172,47 @@ public final class OffTest {
         CHECK.same("WHERE", used.about(45), fresh.about(45));
     }
 
-    /** Both do the same from now on, and are asked for everything but what stays. */
-    private static void alike(EngineControl used, EngineControl fresh) {
-        for (int step = 0; step < 40; step++) {
+    /**
+     * One that was used and one that is new do the same so many steps long, and are asked then for
+     * everything but what stays. (Both are made anew for each step: 512 calls are all that is promised.)
+     */
+    private static void alike(int steps) {
+        EngineControl used = new EngineControl();
+        EngineControl fresh = new EngineControl();
+        prepare(used);
+        prepare(fresh);
+        wear(used);
+        used.cut(0);
+        // The same bench: the wheel, the pins, the clock modulo a LOOP, and no words kept.
+        forgetStore(used);
+        even(used, fresh);
+        for (int step = 0; step <= steps; step++) {
             act(used, step);
             act(fresh, step);
-            for (int what = 1; what < 80; what++) {
-                if (what != 14 && what != 48 && what != 52) {
-                    CHECK.same("step " + step + ", about(" + what + ")", used.about(what), fresh.about(what));
-                }
-            }
-            for (int k = 0; k < 28; k++) {
-                CHECK.same("step " + step + ", trouble " + k, used.trouble(k, 0), fresh.trouble(k, 0));
-            }
-            for (int c = 0; c < 4; c++) {
-                for (int what = 0; what < 8; what++) {
-                    CHECK.same("step " + step + ", cylinder", used.cylinder(c, what), fresh.cylinder(c, what));
-                }
-            }
-            for (int i = 0; i < fresh.about(43); i++) {
-                CHECK.same("step " + step + ", byteOf", used.byteOf(i), fresh.byteOf(i));
+        }
+        for (int what = 1; what < 80; what++) {
+            if (what != 14 && what != 48 && what != 52) {
+                CHECK.same("step " + steps + ", about(" + what + ")", used.about(what), fresh.about(what));
             }
         }
+        for (int k = 0; k < 28; k++) {
+            CHECK.same("step " + steps + ", trouble " + k, used.trouble(k, 0), fresh.trouble(k, 0));
+        }
+        for (int c = 0; c < 4; c++) {
+            for (int what = 0; what < 8; what++) {
+                CHECK.same("step " + steps + ", cylinder", used.cylinder(c, what), fresh.cylinder(c, what));
+            }
+        }
+        int bytes = (int) Math.min(80, fresh.about(43));
+        for (int i = 0; i < bytes; i++) {
+            CHECK.same("step " + steps + ", byteOf", used.byteOf(i), fresh.byteOf(i));
+        }
+    }
+
+    /** Nothing was written but by the CYCLE's end, so only HEADS can make a copy valid. */
+    private static void forgetStore(EngineControl x) {
+        x.spoil(0, 0, 0);
+        x.spoil(1, 0, 0);
     }
 
     /** SPARKS, a wrong cam edge and a slip before the first LOOP: it compares them with 0. */

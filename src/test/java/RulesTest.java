@@ -106,22 +106,21 @@ public final class RulesTest {
     }
 
     private static void depth() {
-        EngineControl x = new EngineControl();
-        CHECK.same("12 (", build(x, "a=" + times("(", 12) + "1" + times(")", 12)), 1);
-        fault(x, "a=" + times("(", 13) + "1" + times(")", 13), 14);
-        CHECK.same("12 -", build(x, "a=" + times("-", 12) + "1"), 1);
-        fault(x, "a=" + times("-", 13) + "1", 14);
-        CHECK.same("12 ? in the first CHOICE", build(x, "a=" + times("1<2?", 12) + "1" + times(":2", 12)), 1);
-        fault(x, "a=" + times("1<2?", 13) + "1" + times(":2", 13), 2 + 48 + 3);
-        CHECK.same("12 ? in the second CHOICE", build(x, "a=" + times("1<2?3:", 12) + "1"), 1);
-        fault(x, "a=" + times("1<2?3:", 13) + "1", 2 + 72 + 3);
-        CHECK.same("mixed", build(x, "a=" + times("-(1<2?", 4) + "1" + times(":2)", 4)), 1);
-        fault(x, "a=" + times("-(1<2?", 4) + "-1" + times(":2)", 4), 26);
-        CHECK.same("a - that has ended", build(x, "a=" + times("-1+", 20) + "1"), 1);
-        CHECK.same("a ( that has ended", build(x, "a=" + times("(1)+", 20) + "1"), 1);
-        fault(x, "a=" + times("(", 12) + "-1", 14);
-        fault(x, "a=" + times("(", 12) + "1<2?3:4", 2 + 12 + 3);
-        CHECK.same("1 - 2 counts nothing", build(x, "a=" + times("(", 12) + "1-2" + times(")", 12)), 1);
+        CHECK.same("12 (", build(new EngineControl(), "a=" + times("(", 12) + "1" + times(")", 12)), 1);
+        fault(new EngineControl(), "a=" + times("(", 13) + "1" + times(")", 13), 14);
+        CHECK.same("12 -", build(new EngineControl(), "a=" + times("-", 12) + "1"), 1);
+        fault(new EngineControl(), "a=" + times("-", 13) + "1", 14);
+        CHECK.same("12 ? in the first CHOICE", build(new EngineControl(), "a=" + times("1<2?", 12) + "1" + times(":2", 12)), 1);
+        fault(new EngineControl(), "a=" + times("1<2?", 13) + "1" + times(":2", 13), 2 + 48 + 3);
+        CHECK.same("12 ? in the second CHOICE", build(new EngineControl(), "a=" + times("1<2?3:", 12) + "1"), 1);
+        fault(new EngineControl(), "a=" + times("1<2?3:", 13) + "1", 2 + 72 + 3);
+        CHECK.same("mixed", build(new EngineControl(), "a=" + times("-(1<2?", 4) + "1" + times(":2)", 4)), 1);
+        fault(new EngineControl(), "a=" + times("-(1<2?", 4) + "-1" + times(":2)", 4), 26);
+        CHECK.same("a - that has ended", build(new EngineControl(), "a=" + times("-1+", 20) + "1"), 1);
+        CHECK.same("a ( that has ended", build(new EngineControl(), "a=" + times("(1)+", 20) + "1"), 1);
+        fault(new EngineControl(), "a=" + times("(", 12) + "-1", 14);
+        fault(new EngineControl(), "a=" + times("(", 12) + "1<2?3:4", 2 + 12 + 3);
+        CHECK.same("1 - 2 counts nothing", build(new EngineControl(), "a=" + times("(", 12) + "1-2" + times(")", 12)), 1);
     }
 
     /** a of a RULE behind one LOOP. */
