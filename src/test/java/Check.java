@@ -16,6 +16,14 @@ final class Check {
         }
     }
 
+    void same(String what, String got, String due) {
+        looked++;
+        if (!got.equals(due)) {
+            wrong++;
+            System.out.println(what + " answered " + got + ", due is " + due);
+        }
+    }
+
     void yes(String what, boolean got) {
         same(what, got ? 1 : 0, 1);
     }
