@@ -138,6 +138,12 @@ public final class BookBoundsTest {
     }
 
     private static void sumsThatWrap() {
+        EngineControl odd = open();
+        Rig.ask(odd, 0x34, 0);
+        for (int i = 0; i < 16; i++) {
+            place(odd, i, i == 15 ? 101 : 100);
+        }
+        CHECK.same("1601", end(odd, 1601), "77");
         EngineControl x = open();
         fill(x, 0, 20000);
         CHECK.same("320000 modulo 65536", end(x, 320000 % 65536), "77");

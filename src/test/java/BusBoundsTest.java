@@ -611,6 +611,14 @@ public final class BusBoundsTest {
     }
 
     private static void barredStaysTillOff() {
+        for (int identifier : new int[] {0, 336, 513, 1280, 1282, 2047}) {
+            EngineControl z = new EngineControl();
+            z.lock(5);
+            z.key(true);
+            CHECK.no("identifier " + identifier, z.frameComes(identifier, rightKey(z, 5), 0));
+            CHECK.same("BARRED", z.about(65), 1);
+            CHECK.same("TRIES", z.about(67), 0);
+        }
         EngineControl x = new EngineControl();
         x.lock(5);
         x.key(true);

@@ -166,6 +166,12 @@ public final class CarBoundsTest {
             CHECK.same("BRAKING stays", x.about(53), 1);
             x.cut(0);
             CHECK.same("until OFF", x.about(54), 0);
+            x.brake(contact, true);
+            x.key(true);
+            Rig.loops(x, 19);
+            CHECK.same("DIFFER 19 behind another BOOT", x.about(54), 0);
+            Rig.loops(x, 1);
+            CHECK.same("DIFFER 20", x.about(54), 1);
         }
         EngineControl y = Rig.on();
         y.brake(0, true);
@@ -402,13 +408,21 @@ public final class CarBoundsTest {
         x.car(0, 20896);
         Rig.loops(x, 1);
         CHECK.same("16000 - 112 by 16, less 224", x.about(57), 993 - 224);
+        EngineControl w = holding(20000);
+        w.car(0, 3000);
+        Rig.loops(w, 9);
+        w.car(0, 20904);
+        Rig.loops(w, 1);
+        CHECK.same("16000 - 113 by 16, less 226", w.about(57), 992 - 226);
         EngineControl y = holding(9000);
         y.car(0, 10000);
         Rig.loops(y, 3);
         CHECK.same("0 at least", y.about(57), 0);
-        y.car(0, 8872);
+        y.car(0, 8880);
         Rig.loops(y, 1);
-        CHECK.same("from 0 on: 16 by 16, and 32", y.about(57), 33);
+        CHECK.same("from 0 on: 15 by 16, and 30", y.about(57), 30);
+        Rig.loops(y, 1);
+        CHECK.same("30 by 16, and 30", y.about(57), 31);
     }
 
     // "CRUISING is FLOOR((WISH - V) / 4) + FLOOR(CSUM / 16), cut to 0 .. 800"

@@ -167,6 +167,16 @@ public final class LoopBoundsTest {
     private static void idlingAtRest() {
         CHECK.same("PEDAL is REST", idlingBehind(20, 800, 2000, ""), 9);
         CHECK.same("above REST", idlingBehind(21, 800, 2000, ""), 0);
+        for (int pedal = 99; pedal <= 101; pedal++) {
+            EngineControl y = plate(60);
+            y.calibrate(23, 100);
+            constant(y, 0, pedal);
+            constant(y, 1, pedal);
+            y.key(true);
+            y.turn(60, 2000);
+            Rig.toLoop(y);
+            CHECK.same("REST 100, PEDAL " + pedal, y.about(23), pedal <= 100 ? 9 : 0);
+        }
         EngineControl x = idling(20, 2000, "");
         x.turn(60, 2000);
         Rig.toLoop(x);
@@ -457,6 +467,53 @@ public final class LoopBoundsTest {
         y.key(true);
         Rig.loops(y, 1);
         CHECK.same("FAR 10", y.about(27), 1);
+        EngineControl off = apart(200, 150, 10);
+        Rig.loops(off, 9);
+        off.cut(0);
+        off.key(true);
+        Rig.loops(off, 9);
+        CHECK.same("FAR is 0 behind OFF", off.about(27), 0);
+        Rig.loops(off, 1);
+        CHECK.same("FAR 10", off.about(27), 1);
+        looksNot();
+    }
+
+    // 12 passes only "if FAR is 0 and it looked": not in the AFTER-RUN, not SHUT, not in LIMP
+    private static void looksNot() {
+        for (int way = 0; way < 3; way++) {
+            EngineControl x = apart(0, 150, 10);
+            if (way == 2) {
+                x.pin(3, 700);
+            }
+            x.watch(true);
+            Rig.loops(x, 5);
+            CHECK.same("it looked", x.trouble(12, 0), -20);
+            if (way == 0) {
+                x.key(false);
+                Rig.loops(x, 10);
+                CHECK.same("AFTER-RUN", x.trouble(12, 0), -20);
+            } else if (way == 1) {
+                Rig.loops(x, 25);
+                CHECK.same("SHUT in this LOOP, behind 7.", x.trouble(12, 0), -120);
+                Rig.loops(x, 5);
+                CHECK.same("SHUT", x.trouble(12, 0), -120);
+            } else {
+                Rig.loops(x, 4);
+                CHECK.same("no LIMP", x.trouble(12, 0), -36);
+                Rig.loops(x, 5);
+                CHECK.same("LIMP", x.trouble(12, 0), -36);
+            }
+        }
+        // FAR does not grow while SHUT: it goes on where it was.
+        EngineControl x = apart(200, 150, 200);
+        x.watch(true);
+        Rig.loops(x, 60);
+        CHECK.same("SHUT", x.about(28), 1);
+        x.watch(false);
+        Rig.loops(x, 169);
+        CHECK.same("30 LOOPS before, 169 now", x.about(27), 0);
+        Rig.loops(x, 1);
+        CHECK.same("200", x.about(27), 1);
     }
 
     private static EngineControl watched() {

@@ -22,6 +22,8 @@ public final class PinBoundsTest {
         platesToTwenty();
         plateOfTheOther();
         limpWhenBothFail();
+        platesWhileOneFails();
+        countsBeginAtZeroBehindOff();
         CHECK.end();
     }
 
@@ -393,5 +395,41 @@ public final class PinBoundsTest {
         CHECK.same("both FAIL", x.about(27), 1);
         CHECK.same("PLATE 60", x.about(21), 60);
         CHECK.same("PLATES did not grow", x.trouble(11, 0) <= 0 ? 1 : 0, 1);
+    }
+
+    // "PLATES likewise": with one FAILING it is as it was, and trouble 11 does not pass
+    private static void platesWhileOneFails() {
+        for (int failing = 2; failing <= 3; failing++) {
+            EngineControl x = plates(0);
+            Rig.loops(x, 1);
+            x.pin(failing, 0);
+            Rig.loops(x, 9);
+            CHECK.same("BAD: it passes", x.trouble(11, 0), -40);
+            Rig.loops(x, 30);
+            CHECK.same("it FAILS", x.channel(failing, 3), 1);
+            CHECK.same("it does not pass", x.trouble(11, 0), -40);
+            CHECK.same("PLATES does not grow", x.about(27), 0);
+            x.pin(failing, 500);
+            Rig.loops(x, 99);
+            CHECK.same("it FAILS yet", x.trouble(11, 0), -40);
+            Rig.loops(x, 1);
+            CHECK.same("it passes", x.trouble(11, 0), -44);
+        }
+    }
+
+    private static void countsBeginAtZeroBehindOff() {
+        EngineControl x = plates(0);
+        x.pin(0, 100);
+        x.pin(1, 900);
+        x.pin(3, 600);
+        Rig.loops(x, 7);
+        x.cut(0);
+        x.key(true);
+        Rig.loops(x, 9);
+        CHECK.same("PLATES 9", x.about(27), 0);
+        CHECK.same("PEDALS 9", x.trouble(10, 0), 0);
+        Rig.loops(x, 1);
+        CHECK.same("PLATES 10", x.about(27), 1);
+        CHECK.same("PEDALS 10", x.trouble(10, 0), 32);
     }
 }

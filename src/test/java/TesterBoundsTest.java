@@ -22,6 +22,7 @@ public final class TesterBoundsTest {
         lampAndCount();
         codesNoneAndAll();
         clearNeedsStandstill();
+        clearAtTheLeastSpeed();
         types();
         numbersThere();
         seedsAndKeys();
@@ -347,6 +348,15 @@ public final class TesterBoundsTest {
             CHECK.same("of the FRAME", Rig.ask(x, 2, 7, 0), String.format("42 07 00 %02X", one[1]));
             CHECK.same("SHORT of it", Rig.ask(x, 2, 6, 0), String.format("42 06 00 %02X", one[1]));
         }
+        int[][] exact = {{125, 0x90}, {-125, 0x70}, {375, 0xB0}, {-1000, 0}, {-1001, 0}, {992, 0xFE}, {993, 0xFF}, {1000, 0xFF}};
+        for (int[] one : exact) {
+            EngineControl x = new EngineControl();
+            Rig.store(x, 0, 1, 29, 1, 34, one[0], 35, one[0]);
+            x.key(true);
+            Rig.ask(x, 0x81);
+            CHECK.same("PID 6 of the FRAME, " + one[0], Rig.ask(x, 2, 6, 0), String.format("42 06 00 %02X", one[1]));
+            CHECK.same("PID 7 of the FRAME, " + one[0], Rig.ask(x, 2, 7, 0), String.format("42 07 00 %02X", one[1]));
+        }
         int[][] speeds = {{-5, 0}, {16383, 65532}, {16384, 65535}, {0, 0}, {1, 4}, {Integer.MAX_VALUE, 65535},
             {Integer.MIN_VALUE, 0}};
         for (int[] one : speeds) {
@@ -533,6 +543,20 @@ public final class TesterBoundsTest {
         CHECK.same("PENDING", x.trouble(0, 2), 1);
     }
 
+    // "22h if SPEED is above 0": the least SPEED there is
+    private static void clearAtTheLeastSpeed() {
+        EngineControl x = new EngineControl();
+        x.calibrate(2, 2000000);
+        x.key(true);
+        Rig.ask(x, 0x81);
+        x.tooth(1);
+        x.tooth(500000);
+        x.pass(990000);
+        CHECK.same("HALF", x.tooth(1000000), EngineControl.HALF);
+        CHECK.same("SPEED", x.about(6), 1);
+        CHECK.same("04h", Rig.ask(x, 4), "7F 04 22");
+    }
+
     // "09h type (2): 49h type and: 00: 44h 0 0 0. 02: .. 06: four bytes"
     private static void types() {
         for (int type = 0; type < 256; type++) {
@@ -643,7 +667,15 @@ public final class TesterBoundsTest {
         x.key(true);
         Rig.ask(x, 0x81);
         seed = seed(x);
-        CHECK.same("not since BOOT", key(x, 3 * seed + 4660), "67 02");
+        CHECK.same("not since BOOT: wrong 1", key(x, 3 * seed), "7F 27 35");
+        seed = seed(x);
+        CHECK.same("wrong 2", key(x, 3 * seed), "7F 27 35");
+        seed = seed(x);
+        CHECK.same("right", key(x, 3 * seed + 4660), "67 02");
+        seed = seed(x);
+        CHECK.same("wrong 3", key(x, 3 * seed), "7F 27 35");
+        seed = seed(x);
+        CHECK.same("36h", key(x, 3 * seed + 4660), "7F 27 36");
     }
 
     // "33h: it is not OPEN; 22h: STATE is not 0; 31h: no such NUMBER, or it is not from its least to its greatest"

@@ -31,6 +31,8 @@ public final class TroubleBoundsTest {
         cutoffTest();
         watchTest();
         hotTest();
+        allWordsOfTrouble();
+        firstLoopOfALaterBoot();
         CHECK.end();
     }
 
@@ -191,6 +193,24 @@ public final class TroubleBoundsTest {
         CHECK.same("CONFIRMED", x.trouble(6, CONFIRMED), 1);
         endCycle(x);
         CHECK.same("PENDING and CONFIRMED", x.word(1, 7), 3);
+        // MET and SEEN in one CYCLE: it is PENDING.
+        EngineControl y = air();
+        Rig.loops(y, 4);
+        y.pin(6, 500);
+        Rig.loops(y, 170);
+        CHECK.same("MET", y.trouble(6, MET), 1);
+        CHECK.same("SEEN", y.trouble(6, SEEN), 1);
+        endCycle(y);
+        CHECK.same("PENDING", y.word(0, 7), 1);
+        EngineControl z = new EngineControl();
+        Rig.store(z, 0, 1, 7, 2 + 4 * 5);
+        z.pin(6, 0);
+        z.key(true);
+        Rig.loops(z, 13);
+        z.pin(6, 500);
+        Rig.loops(z, 170);
+        endCycle(z);
+        CHECK.same("PENDING again, HEALED as it was", z.word(1, 7), 3 + 4 * 5);
     }
 
     // "what is not MET, but SEEN: it is not PENDING"
@@ -331,6 +351,20 @@ public final class TroubleBoundsTest {
             endCycle(x);
             CHECK.same("the other one is WRITTEN", x.word(1 - one[2], 53), 101 + one[2]);
             CHECK.same("this one is not", x.word(one[2], 53), 100 + one[2]);
+        }
+        // A copy that is not VALID has no say, be its HEAD the greater one or not.
+        for (int copy = 0; copy < 2; copy++) {
+            for (int head : new int[] {1, 5, 9}) {
+                EngineControl x = new EngineControl();
+                Rig.store(x, copy, head, 53, 100);
+                x.spoil(copy, 54, 0);
+                Rig.store(x, 1 - copy, 5, 53, 101);
+                CHECK.same("HEAD of the valid one", x.about(49), 5);
+                x.key(true);
+                CHECK.same("CYCLES", x.about(39), 101);
+                endCycle(x);
+                CHECK.same("the other one is WRITTEN", x.word(copy, 0), 6);
+            }
         }
     }
 
@@ -572,9 +606,12 @@ public final class TroubleBoundsTest {
             roll(x, 1);
             CHECK.same("SHORT and LONG", x.about(32) + x.about(34), sign * 240);
             CHECK.same("240 fails", x.trouble(18, DEBOUNCE), -96);
+            roll(x, 2);
+            CHECK.same("242 fails", x.trouble(18, DEBOUNCE), -32);
             x.tooth(1);
             Rig.toLoop(x);
-            CHECK.same("not CLOSED: neither", x.trouble(18, DEBOUNCE), -96);
+            CHECK.same("SHORT and LONG", x.about(32) + x.about(34), sign * 241);
+            CHECK.same("not CLOSED: neither", x.trouble(18, DEBOUNCE), -32);
         }
     }
 
@@ -621,6 +658,58 @@ public final class TroubleBoundsTest {
         CHECK.same("WRONG 1, 2: neither", x.trouble(13, DEBOUNCE), -36);
         Rig.loops(x, 1);
         CHECK.same("SHUT fails", x.trouble(13, DEBOUNCE), -4);
+    }
+
+    // "1 + k: trouble k as PENDING + 2 CONFIRMED + 4 HEALED", for the first one, the last one, and all between
+    private static void allWordsOfTrouble() {
+        EngineControl x = new EngineControl();
+        int[] words = new int[56];
+        for (int k = 0; k < 28; k++) {
+            words[2 * k] = 1 + k;
+            words[2 * k + 1] = 2 + 4 * k;
+        }
+        Rig.store(x, 0, 1, words);
+        x.key(true);
+        endCycle(x);
+        for (int k = 0; k < 28; k++) {
+            // In 100 LOOPS of a wheel that stands these have been SEEN.
+            boolean seen = k <= 11 || k == 14;
+            CHECK.same("trouble " + k, x.word(1, 1 + k), 2 + 4 * (seen ? k + 1 : k));
+        }
+    }
+
+    // What grew since the LOOP before: before the first LOOP since BOOT all counts are 0.
+    private static void firstLoopOfALaterBoot() {
+        EngineControl x = Rig.on();
+        x.turn(240, 1000);
+        x.cam(0);
+        x.tooth(1);
+        x.cut(0);
+        Rig.toLoop(x);
+        x.key(true);
+        Rig.loops(x, 1);
+        for (int k = 15; k <= 19; k++) {
+            CHECK.same("trouble " + k + " neither fails nor passes", x.trouble(k, DEBOUNCE), 0);
+        }
+        for (int cutoff = 0; cutoff <= 1; cutoff++) {
+            EngineControl y = new EngineControl();
+            // BEGIN at 1080 (place 18), TOP at 2880; the coil has 1200 tenths, at PITCH 50 1000 ticks.
+            y.calibrate(0, 1);
+            y.calibrate(1, 2880);
+            y.calibrate(4, cutoff == 1 ? 1000 : 2000);
+            constant(y, 12, 6000);
+            Rig.everyCell(y, 1, 450);
+            y.key(true);
+            Rig.loops(y, 1);
+            y.cut(0);
+            y.key(true);
+            y.turn(175, 50);
+            CHECK.same("no LOOP yet", y.about(11), 0);
+            CHECK.same("CUTOFFS", y.about(16), cutoff);
+            CHECK.same("SPARKS", y.about(15), 1 - cutoff);
+            Rig.toLoop(y);
+            CHECK.same("trouble 19", y.trouble(19, DEBOUNCE), cutoff == 1 ? 32 : -4);
+        }
     }
 
     // "14 fails if HOT, else passes"
