@@ -26,6 +26,10 @@ public final class ModelBoundsTest {
         heatByFan();
         coolantPin();
         withoutAuto();
+        starterAt249();
+        strokeIsFeltOnce();
+        topsOfEachPlace();
+        pressureByTheFlap();
         CHECK.end();
     }
 
@@ -607,6 +611,107 @@ public final class ModelBoundsTest {
         for (int i = 0; i < 12; i++) {
             Rig.loops(y, 50);
             CHECK.same("RAW", y.channel(5, 0), (140 - y.about(47)) * 1023 / 180);
+        }
+    }
+
+    // "RPM below 250, it is 250": 252 shrinks to 249
+    private static void starterAt249() {
+        EngineControl x = oneCylinder(128, 0);
+        x.calibrate(1, 1860);
+        x.key(true);
+        x.run(240);
+        x.run(31);
+        CHECK.same("250 and 128 / 64", x.about(44), 252);
+        x.run(9);
+        CHECK.same("252 - 3", x.about(44), 249);
+        x.run(1);
+        CHECK.same("250", x.about(44), 250);
+    }
+
+    // "if since it was so before its injector went on .. and its coil gave a SPARK": what was felt is gone
+    private static void strokeIsFeltOnce() {
+        // SHUT: SPARKS come, but no injections.
+        EngineControl x = oneCylinder(6400, 0);
+        x.calibrate(1, 1860);
+        x.key(true);
+        x.run(240);
+        x.run(31);
+        CHECK.same("a stroke", x.about(44), 350);
+        x.watch(true);
+        x.run(110);
+        x.run(120);
+        CHECK.same("SHUT", x.about(28), 1);
+        long used = x.about(64);
+        long sparks = x.about(15);
+        while (x.about(45) != 30) {
+            x.run(1);
+        }
+        x.run(120);
+        long before = x.about(44);
+        CHECK.same("no injection", x.about(64), used);
+        CHECK.yes("SPARKS", x.about(15) > sparks);
+        x.run(1);
+        CHECK.same("place 31", x.about(45), 31);
+        CHECK.same("a SPARK alone", x.about(44), Math.max(250, before));
+        // A low BATTERY: the coil is cut off before its SPARK, but injections come.
+        EngineControl y = oneCylinder(6400, 0);
+        y.calibrate(1, 1860);
+        y.line(8, 0, 80, 1023, 200);
+        y.line(12, 80, 20000, 160, 2500);
+        y.pin(8, 900);
+        y.key(true);
+        y.run(240);
+        y.run(31);
+        CHECK.same("a stroke", y.about(44), 350);
+        y.pin(8, 20);
+        y.run(119);
+        y.run(120);
+        sparks = y.about(15);
+        used = y.about(64);
+        before = y.about(44);
+        CHECK.same("place 30", y.about(45), 30);
+        CHECK.yes("a CUTOFF", y.about(16) > 0);
+        y.run(1);
+        CHECK.same("an injection alone", y.about(44), Math.max(250, before));
+        y.run(120);
+        CHECK.yes("injections", y.about(64) > used);
+        CHECK.same("no SPARKS", y.about(15), sparks);
+    }
+
+    // "if WHERE is TOP / 60 of a cylinder"
+    private static void topsOfEachPlace() {
+        int[][] all = {{0, 0}, {59, 0}, {60, 1}, {3599, 59}, {3600, 60}, {5459, 90}, {5460, 91}, {7199, 119}};
+        for (int[] one : all) {
+            EngineControl x = oneCylinder(6400, 0);
+            x.calibrate(1, one[0]);
+            x.key(true);
+            x.run(135);
+            // PLANNED 30 places before: in this round, or in the next one.
+            x.run(one[1] < 46 ? 104 + one[1] : one[1] - 16);
+            CHECK.yes("not before", x.about(44) <= 250);
+            x.run(1);
+            CHECK.same("WHERE", x.about(45), one[1]);
+            CHECK.yes("a stroke at TOP " + one[0], x.about(44) > 300);
+        }
+    }
+
+    // "30 + FLAP * 70 / 1000": by 1 for each LOOP
+    private static void pressureByTheFlap() {
+        EngineControl x = new EngineControl();
+        x.calibrate(16, 1);
+        x.calibrate(17, 0);
+        x.calibrate(18, 1000);
+        constant(x, 0, 20);
+        constant(x, 1, 20);
+        constant(x, 2, 0);
+        constant(x, 3, 0);
+        x.set(1, true);
+        x.key(true);
+        Rig.loops(x, 1);
+        for (int flap = 61; flap < 200; flap++) {
+            Rig.loops(x, 1);
+            CHECK.same("PLATE1 at FLAP " + flap, x.channel(2, 0), flap * 1023 / 1000);
+            CHECK.same("PRESSURE at FLAP " + flap, x.channel(4, 0), (20 + flap * 70 / 1000) * 1023 / 100);
         }
     }
 

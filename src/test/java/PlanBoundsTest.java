@@ -32,6 +32,10 @@ public final class PlanBoundsTest {
         latestTwoHundredEdges();
         onlyWhileOn();
         eachAllOffEndsPlans();
+        noSegmentOverAllOff();
+        fuelOfShort();
+        fuelOfEachEvent();
+        coilsInTurnWhenFull();
         CHECK.end();
     }
 
@@ -651,6 +655,94 @@ public final class PlanBoundsTest {
         for (int what = 0; what < 3; what++) {
             CHECK.same("EDGE 0 is the one that was " + gone, x.edge(0, what), y.edge(gone, what));
             CHECK.same("EDGE 60", x.edge(60, what), y.edge(60 + gone, what));
+        }
+    }
+
+    // "(none behind ALL OFF ..)": the gap from the PLANNING before it counts neither as S nor as S0
+    private static void noSegmentOverAllOff() {
+        EngineControl x = steady(7);
+        x.key(true);
+        Rig.toFull(x, 1000);
+        // BEGINS with seven: 857, 1885, 2914 in TURN 0; 342 (TOOTH 5 of TURN 1), 1371, ..
+        x.turn(57, 1000);
+        CHECK.same("TURN", x.about(4), 1);
+        CHECK.same("TOOTH", x.about(3), 12);
+        long segments = x.about(17);
+        CHECK.same("a wrong cam edge: ALL OFF", x.cam(0), EngineControl.HALF);
+        CHECK.same("FULL at once, in TURN 0", x.cam(0), EngineControl.FULL);
+        x.turn(2, 1000);
+        CHECK.same("PLANNED at 857, nine places behind the one before", x.about(17), segments + 1);
+        x.turn(17, 1000);
+        CHECK.same("PLANNED at 1885", x.about(17), segments + 2);
+        x.turn(17, 1000);
+        CHECK.same("PLANNED at 2914", x.about(17), segments + 3);
+        for (int c = 0; c < 7; c++) {
+            CHECK.same("no MISS of " + c, x.cylinder(c, 2), 0);
+        }
+    }
+
+    // "(1000 + SHORT + LONG ..)": SHORT with its sign
+    private static void fuelOfShort() {
+        for (int raw : new int[] {300, 700}) {
+            EngineControl x = steady(1);
+            x.calibrate(13, 0);
+            x.calibrate(12, 7);
+            Rig.everyCell(x, 0, 1111);
+            x.pin(7, raw);
+            x.key(true);
+            x.turn(240, 1000);
+            plan(x, 1000);
+            long trim = x.about(32);
+            CHECK.yes("SHORT " + trim, raw == 300 ? trim > 50 : trim < -50);
+            CHECK.same("LONG", x.about(34), 0);
+            CHECK.same("FUEL", x.cylinder(0, 5), Math.floorDiv(1111 * (1000 + trim), 1000L) + 900);
+        }
+    }
+
+    // "an EVENT is put behind FUEL ticks (of its plan)", with EVENTS of all kinds between
+    private static void fuelOfEachEvent() {
+        EngineControl x = steady(8);
+        x.calibrate(4, 20000);
+        x.calibrate(5, 9000);
+        Rig.everyCell(x, 0, 3000);
+        x.key(true);
+        Rig.toFull(x, 150);
+        for (int i = 0; i < 4; i++) {
+            x.turn(240, 150);
+        }
+        long[] on = new long[8];
+        int pairs = 0;
+        for (int i = 0; i < 120; i++) {
+            int c = (int) x.edge(80 + i, 2);
+            if (x.edge(80 + i, 1) == 0) {
+                on[c] = x.edge(80 + i, 0);
+            } else if (x.edge(80 + i, 1) == 1 && on[c] > 0) {
+                CHECK.same("FUEL", x.edge(80 + i, 0) - on[c], 3900);
+                pairs++;
+            }
+        }
+        CHECK.yes("there were some", pairs >= 20);
+        CHECK.same("no CUTOFFS", x.about(16), 0);
+    }
+
+    // "COIL: a coil that is off goes on": also when EVENTS that were full have lost a SPARK
+    private static void coilsInTurnWhenFull() {
+        EngineControl x = new EngineControl();
+        x.calibrate(0, 8);
+        x.calibrate(4, 20000);
+        x.key(true);
+        for (int i = 0; i < 20; i++) {
+            x.turn(240, 20);
+        }
+        CHECK.yes("OVER", x.about(13) > 10);
+        boolean[] on = new boolean[8];
+        boolean[] known = new boolean[8];
+        for (int i = 0; i < 200; i++) {
+            int c = (int) x.edge(i, 2);
+            boolean goesOn = x.edge(i, 1) == 2;
+            CHECK.yes("on and off in turn", !known[c] || on[c] != goesOn);
+            known[c] = true;
+            on[c] = goesOn;
         }
     }
 
