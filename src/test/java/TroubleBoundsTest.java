@@ -700,8 +700,12 @@ public final class TroubleBoundsTest {
             constant(y, 12, 6000);
             Rig.everyCell(y, 1, 450);
             y.key(true);
-            Rig.loops(y, 1);
+            for (int i = 0; i < 6; i++) {
+                y.turn(240, 50);
+            }
+            CHECK.yes("some in the BOOT before", y.about(15 + cutoff) > 1);
             y.cut(0);
+            Rig.toLoop(y);
             y.key(true);
             y.turn(175, 50);
             CHECK.same("no LOOP yet", y.about(11), 0);
