@@ -36,6 +36,7 @@ public final class PlanBoundsTest {
         fuelOfShort();
         fuelOfEachEvent();
         coilsInTurnWhenFull();
+        anglesGoRound();
         CHECK.end();
     }
 
@@ -745,6 +746,46 @@ public final class PlanBoundsTest {
             CHECK.yes("on and off in turn", !known[c] || on[c] != goesOn);
             known[c] = true;
             on[c] = goesOn;
+        }
+    }
+
+    // "INJECT waits for the angle BEGIN + INJECTION ..; SPARK for TOP - ADVANCE; COIL for SPARK's less .. (all modulo 7200)"
+    private static void anglesGoRound() {
+        int[][] all = {{0, 300, 450}, {100, 0, 450}, {449, 1400, 450}, {450, 300, 450}, {1649, 300, 450}, {1799, 7, 0},
+            {1800, 0, 0}, {7199, 300, -100}, {7100, 1400, -100}, {7099, 1, -100}, {400, 1399, -1}};
+        for (int[] one : all) {
+            EngineControl x = steady(1);
+            x.calibrate(1, one[0]);
+            x.calibrate(3, one[1]);
+            x.calibrate(4, 20000);
+            Rig.everyCell(x, 1, one[2]);
+            x.line(12, -10000, 12000, 30000, 12000);
+            x.key(true);
+            // At PITCH 600 a tenth of a degree is 10 ticks, the coil's way 1200 of them.
+            Rig.toFull(x, 600);
+            plan(x, 600);
+            long inject = x.comes(Math.floorMod(one[0] - 1800 + one[1], 7200));
+            long spark = x.comes(Math.floorMod(one[0] - one[2], 7200));
+            long coil = x.comes(Math.floorMod(one[0] - one[2] - 1200, 7200));
+            x.turn(55, 600);
+            CHECK.same("EDGES of TOP " + one[0], x.about(14), 4);
+            boolean first = inject <= coil;
+            int at = 0;
+            while (x.edge(at, 1) != 0) {
+                at++;
+            }
+            CHECK.same("INJECT of TOP " + one[0], x.edge(at, 0), inject);
+            at = 0;
+            while (x.edge(at, 1) != 2) {
+                at++;
+            }
+            CHECK.same("COIL of TOP " + one[0], x.edge(at, 0), coil);
+            CHECK.yes("their order", !first || at > 0);
+            at = 0;
+            while (x.edge(at, 1) != 3) {
+                at++;
+            }
+            CHECK.same("SPARK of TOP " + one[0], x.edge(at, 0), spark);
         }
     }
 
