@@ -24,6 +24,7 @@ public final class LoopBoundsTest {
         watchWaits();
         wrongEnds();
         shutAtThree();
+        allOffOnlyWhenShutBegins();
         questionGoesRound();
         watchAnew();
         lastAnswerCounts();
@@ -590,6 +591,40 @@ public final class LoopBoundsTest {
         CHECK.same("WRONG 0", x.about(28), 0);
         Rig.loops(x, 20);
         CHECK.same("WRONG 2", x.about(28), 0);
+    }
+
+    // "SHUT begins when WRONG is 3 (ALL OFF)": it does not begin when it is there and WRONG comes back to 3.
+    private static void allOffOnlyWhenShutBegins() {
+        EngineControl x = Rig.on();
+        Rig.toFull(x, 1000);
+        x.watch(true);
+        x.turn(240, 1000);
+        x.turn(54, 1000);
+        x.pass(999);
+        CHECK.same("WRONG 2", x.about(37), 2);
+        CHECK.yes("something is planned", atHand(x) > 0);
+        x.pass(1);
+        CHECK.same("WRONG 3", x.about(37), 3);
+        CHECK.same("ALL OFF", atHand(x), 0);
+        x.turn(1, 20);
+        right(x);
+        x.turn(199, 1000);
+        x.pass(979);
+        CHECK.same("WRONG 2, SHUT yet", 10 * x.about(37) + x.about(28), 21);
+        int before = atHand(x);
+        CHECK.yes("sparks are planned", before > 0);
+        x.pass(1);
+        CHECK.same("WRONG 3, SHUT yet", 10 * x.about(37) + x.about(28), 31);
+        CHECK.same("no ALL OFF", atHand(x), before);
+    }
+
+    /** EVENTS, and what waits for an angle. */
+    private static int atHand(EngineControl x) {
+        int count = (int) x.about(12);
+        for (int c = 0; c < 4; c++) {
+            count += x.cylinder(c, 7);
+        }
+        return count;
     }
 
     // "QUESTION becomes (5 QUESTION + 1) modulo 16 and is not answered", "right by (q * q + 7) modulo 16"
